@@ -21,7 +21,7 @@ public final class PloughPlanner {
     public PloughPlanner() {
         town = new Town();
         vehicle = new Vehicle(town);
-        ways = new Ways(town);
+        ways = new Ways(town, vehicle);
     }
 
     // ---- the town
@@ -126,25 +126,25 @@ public final class PloughPlanner {
 
     public int way(int node) throws IndexOutOfBoundsException {
         checkNode(node);
-        lookAround();
+        ways.lookAround();
         return ways.minutesToNode(node);
     }
 
     public int first(int node) throws IndexOutOfBoundsException {
         checkNode(node);
-        lookAround();
+        ways.lookAround();
         return ways.firstRoadTo(ways.lastSideTo(node));
     }
 
     public int wayToSide(int road, int side) throws IndexOutOfBoundsException {
         int goal = checkedSide(road, side);
-        lookAround();
+        ways.lookAround();
         return ways.minutesTo(goal);
     }
 
     public int firstToSide(int road, int side) throws IndexOutOfBoundsException {
         int goal = checkedSide(road, side);
-        lookAround();
+        ways.lookAround();
         return ways.firstRoadTo(goal);
     }
 
@@ -157,13 +157,19 @@ public final class PloughPlanner {
             throw new IllegalArgumentException("limit is not 0 to 300");
         }
         int minutes = 0;
+        int side = findNextSide();
         // Going to a side takes a minute or more, so there are never more rounds than the limit.
-        for (int round = 0; round < limit && minutes < limit; round++) {
-            int taken = clearNextSide();
-            if (taken == 0) {
-                break;
+        for (int round = 0; round < limit && minutes < limit && side != NONE; round++) {
+            if (vehicle.lacksSaltFor(side / 2)) {
+                int store = nearestStore();
+                if (store != NONE) {
+                    minutes += fillUpAt(store);
+                    // Going to the store cleared and covered sides, and the plough stands elsewhere.
+                    side = findNextSide();
+                }
             }
-            minutes += taken;
+            minutes += followWayTo(side);
+            side = findNextSide();
         }
         return minutes;
     }
@@ -211,12 +217,8 @@ public final class PloughPlanner {
 
     // ---- clearing
 
-    private void lookAround() {
-        ways.lookFrom(vehicle.node(), vehicle.cameBy());
-    }
-
     private int findNextSide() {
-        lookAround();
+        ways.lookAround();
         int best = NONE;
         for (int side = 0; side < town.sideCount(); side++) {
             if (town.snowOn(side) >= DEEP_SNOW && ways.minutesTo(side) != NONE && isMoreUrgent(side, best)) {
@@ -238,25 +240,6 @@ public final class PloughPlanner {
         return ways.minutesTo(side) < ways.minutesTo(other);
     }
 
-    /** Returns the minutes that it took; 0 only if there is no next side. */
-    private int clearNextSide() {
-        int side = findNextSide();
-        if (side == NONE) {
-            return 0;
-        }
-        int minutes = 0;
-        if (vehicle.lacksSaltFor(side / 2)) {
-            int store = nearestStore();
-            if (store != NONE) {
-                minutes = followWayTo(ways.lastSideTo(store)) + FILL_MINUTES;
-                vehicle.takeSalt();
-                // Going to the store cleared and covered sides, and the plough stands elsewhere.
-                side = findNextSide();
-            }
-        }
-        return minutes + followWayTo(side);
-    }
-
     private int nearestStore() {
         int best = NONE;
         for (int node = 0; node < town.nodeCount(); node++) {
@@ -266,6 +249,12 @@ public final class PloughPlanner {
             }
         }
         return best;
+    }
+
+    private int fillUpAt(int store) {
+        int minutes = followWayTo(ways.lastSideTo(store));
+        vehicle.takeSalt();
+        return minutes + FILL_MINUTES;
     }
 
     private int followWayTo(int side) {
@@ -319,7 +308,7 @@ public final class PloughPlanner {
         }
 
         boolean hasSide(int side) {
-            return side >= 0 && side < sideCount();
+            return side >= 0 && side < 2 * roads;
         }
 
         int appendNode(boolean isTurning, boolean isStore) {
@@ -602,20 +591,22 @@ public final class PloughPlanner {
         }
     }
 
-    /** The shortest way to each side from the place of the last look. */
+    /** The shortest way to each side from where the plough was at the last look. */
     private static final class Ways {
         // One row more than there are sides: a way is laid out here before it is known to be the shortest.
         private static final int TRIAL = MAX_SIDES;
 
         private final Town town;
+        private final Vehicle vehicle;
         private final int[] minutes = new int[MAX_SIDES + 1];
         private final int[] lengths = new int[MAX_SIDES + 1];
         private final int[][] rows = new int[MAX_SIDES + 1][MAX_SIDES];
         private final boolean[] settled = new boolean[MAX_SIDES];
         private int start;
 
-        Ways(Town town) {
+        Ways(Town town, Vehicle vehicle) {
             this.town = town;
+            this.vehicle = vehicle;
             start = 0;
         }
 
@@ -623,10 +614,10 @@ public final class PloughPlanner {
          * The rule for going on depends on the road one came by, so the search runs over sides, not nodes.
          * Each road takes a minute or more, so the nearest open side can no longer be bettered.
          */
-        void lookFrom(int node, int cameBy) {
-            start = node;
+        void lookAround() {
+            start = vehicle.node();
             forgetAll();
-            goOnFrom(NONE, node, cameBy);
+            goOnFrom(NONE, start, vehicle.cameBy());
             for (int round = 0; round < town.sideCount(); round++) {
                 int side = nearestOpenSide();
                 if (side == NONE) {

@@ -2,7 +2,7 @@ import java.util.Random;
 
 /** Long runs of mixed calls, right and wrong ones: the planner must answer as the model does, call by call. */
 public final class ModelTest {
-    private static final int RUNS = 3000;
+    private static final int RUNS = 1500;
     private static final int CALLS = 512;
     private static final Check CHECK = new Check();
 
