@@ -1,6 +1,12 @@
 /** Compares what a call answers with what is due, and counts what differs. */
 final class Check {
     private int wrong = 0;
+    private String context = "";
+
+    /** What follows tests these words of the document; a report names them. */
+    void sentence(String promise, String words) {
+        context = promise + ", \"" + words + "\": ";
+    }
 
     void due(String call, long got, long want) {
         if (got != want) {
@@ -41,7 +47,7 @@ final class Check {
     private void report(String text) {
         wrong++;
         if (wrong <= 50) {
-            System.out.println(text);
+            System.out.println(context + text);
         }
     }
 

@@ -17,15 +17,8 @@ public final class PloughTest {
         CHECK.end();
     }
 
-    private static PloughPlanner withRoad(int minutes) {
-        PloughPlanner x = new PloughPlanner();
-        x.addNode(true, false);
-        x.addRoad(0, 1, minutes, 0);
-        return x;
-    }
-
     private static void promise11Strew() {
-        PloughPlanner x = withRoad(1);
+        PloughPlanner x = Towns.withRoad(1);
         x.snow(10);
         CHECK.due("strews at first", x.strew(true), true);
         CHECK.due("still", x.strew(false), true);
@@ -41,19 +34,19 @@ public final class PloughTest {
     }
 
     private static void promise12GoAndMinutes() {
-        PloughPlanner x = withRoad(7);
+        PloughPlanner x = Towns.withRoad(7);
         CHECK.due("without snow", x.go(0), 7);
         CHECK.due("with a turn", x.go(0), 9);
         x.snow(49);
         CHECK.due("49 millimetres", x.go(0), 9);
-        PloughPlanner y = withRoad(7);
+        PloughPlanner y = Towns.withRoad(7);
         y.snow(50);
         CHECK.due("50 millimetres", y.go(0), 14);
         CHECK.due("75 millimetres and a turn", y.go(0), 16);
     }
 
     private static void promise12GoOnlyWhereItCan() {
-        PloughPlanner x = withRoad(5);
+        PloughPlanner x = Towns.withRoad(5);
         x.addNode(false, false);
         x.addRoad(1, 2, 6, 0);
         x.addRoad(2, 1, 8, 0);
@@ -78,7 +71,7 @@ public final class PloughTest {
     }
 
     private static void promise12GoAndSalt() {
-        PloughPlanner x = withRoad(30);
+        PloughPlanner x = Towns.withRoad(30);
         x.go(0);
         CHECK.due("no snow, no salt", x.plough(2), 120);
         CHECK.due("not salted", x.isSalted(0, 0), false);
@@ -92,7 +85,7 @@ public final class PloughTest {
         x.go(0);
         CHECK.due("no salt left", x.isSalted(0, 1), false);
         CHECK.due("cleared all the same", x.depth(0, 1), 0);
-        PloughPlanner y = withRoad(29);
+        PloughPlanner y = Towns.withRoad(29);
         y.addRoad(0, 1, 5, 0);
         y.addRoad(0, 1, 4, 0);
         y.snow(8);
@@ -108,7 +101,7 @@ public final class PloughTest {
     }
 
     private static void promise12GoAndSnow() {
-        PloughPlanner x = withRoad(1);
+        PloughPlanner x = Towns.withRoad(1);
         x.snow(300);
         x.snow(300);
         x.snow(150);
@@ -125,7 +118,7 @@ public final class PloughTest {
     }
 
     private static void promise13Fill() {
-        PloughPlanner x = withRoad(30);
+        PloughPlanner x = Towns.withRoad(30);
         CHECK.due("full already", x.fill(), 0);
         CHECK.due("4 minutes all the same", x.total(0), 4);
         x.snow(10);
@@ -141,7 +134,7 @@ public final class PloughTest {
     }
 
     private static void promise14Plough() {
-        PloughPlanner x = withRoad(3);
+        PloughPlanner x = Towns.withRoad(3);
         x.addRoad(0, 1, 2, 0);
         x.snow(1);
         x.go(1);
@@ -156,7 +149,7 @@ public final class PloughTest {
     }
 
     private static void promise21Total() {
-        PloughPlanner x = withRoad(3);
+        PloughPlanner x = Towns.withRoad(3);
         x.snow(60);
         x.go(0);
         x.go(0);
@@ -171,7 +164,7 @@ public final class PloughTest {
 
     private static void promise22Digest() {
         PloughPlanner x = new PloughPlanner();
-        CHECK.due("new", x.digest(), sum(1, 3, 0, 0, -1, 120, 1, 0, 0, 0, 0));
+        CHECK.due("new", x.digest(), Towns.sum(1, 3, 0, 0, -1, 120, 1, 0, 0, 0, 0));
         x.addNode(true, false);
         x.addNode(false, true);
         x.addNode(false, false);
@@ -184,15 +177,7 @@ public final class PloughTest {
         x.go(1);
         x.strew(false);
         CHECK.due("after some calls", x.digest(),
-                sum(4, 3, 1, 2, 0, 2, 0, 7, 3, 0, 31, 1, 2, 1, 107, 0, 17, 13, 2, 4));
+                Towns.sum(4, 3, 1, 2, 0, 2, 0, 7, 3, 0, 31, 1, 2, 1, 107, 0, 17, 13, 2, 4));
         CHECK.due("asked again", x.digest(), x.digest());
-    }
-
-    private static long sum(long... numbers) {
-        long d = 223;
-        for (long number : numbers) {
-            d = d * 31 + number;
-        }
-        return d;
     }
 }

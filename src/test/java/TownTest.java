@@ -21,14 +21,6 @@ public final class TownTest {
         CHECK.end();
     }
 
-    private static PloughPlanner withNodes(int count) {
-        PloughPlanner x = new PloughPlanner();
-        for (int node = 1; node < count; node++) {
-            x.addNode(false, false);
-        }
-        return x;
-    }
-
     private static void promise1NewObject() {
         PloughPlanner x = new PloughPlanner();
         CHECK.dueThrow("depth(0, 0)", INDEX, () -> x.depth(0, 0));
@@ -60,7 +52,7 @@ public final class TownTest {
     }
 
     private static void promise3SetNode() {
-        PloughPlanner x = withNodes(2);
+        PloughPlanner x = Towns.withNodes(2);
         CHECK.due("store on", x.setNode(1, true, true), false);
         CHECK.due("turning stays off", x.setNode(1, false, false), false);
         CHECK.due("store stays on", x.setNode(1, true, true), true);
@@ -76,7 +68,7 @@ public final class TownTest {
     }
 
     private static void promise4AddRoad() {
-        PloughPlanner x = withNodes(3);
+        PloughPlanner x = Towns.withNodes(3);
         for (int road = 0; road < 12; road++) {
             CHECK.due("addRoad", x.addRoad(road % 2, 2, road == 0 ? 30 : 1, road % 3), road);
         }
@@ -89,7 +81,7 @@ public final class TownTest {
     }
 
     private static void promise4OrderOfExceptions() {
-        PloughPlanner x = withNodes(2);
+        PloughPlanner x = Towns.withNodes(2);
         CHECK.dueThrowWithoutChange("addRoad(0, 2, 0, 3)", INDEX, x, () -> x.addRoad(0, 2, 0, 3));
         CHECK.dueThrowWithoutChange("addRoad(2, 0, 1, 0)", INDEX, x, () -> x.addRoad(2, 0, 1, 0));
         CHECK.dueThrow("addRoad(-1, -1, 0, 3)", INDEX, () -> x.addRoad(-1, -1, 0, 3));
@@ -109,7 +101,7 @@ public final class TownTest {
     }
 
     private static void promise5Snow() {
-        PloughPlanner x = withNodes(2);
+        PloughPlanner x = Towns.withNodes(2);
         CHECK.due("snow(300) without roads", x.snow(300), 0);
         x.addRoad(0, 1, 1, 2);
         CHECK.due("no snow on a new road", x.depth(0, 0), 0);
@@ -131,7 +123,7 @@ public final class TownTest {
     }
 
     private static void promise5SnowOnSalt() {
-        PloughPlanner x = withNodes(2);
+        PloughPlanner x = Towns.withNodes(2);
         x.addRoad(0, 1, 1, 2);
         x.snow(11);
         x.go(0);
@@ -145,7 +137,7 @@ public final class TownTest {
     }
 
     private static void promise6Depth() {
-        PloughPlanner x = withNodes(2);
+        PloughPlanner x = Towns.withNodes(2);
         x.addRoad(1, 0, 3, 0);
         x.snow(40);
         x.go(0);
@@ -161,7 +153,7 @@ public final class TownTest {
     }
 
     private static void promise7IsSalted() {
-        PloughPlanner x = withNodes(2);
+        PloughPlanner x = Towns.withNodes(2);
         x.addRoad(1, 0, 3, 0);
         CHECK.due("not at first", x.isSalted(0, 1), false);
         x.snow(1);
@@ -175,7 +167,7 @@ public final class TownTest {
     }
 
     private static void promise8Worst() {
-        PloughPlanner x = withNodes(2);
+        PloughPlanner x = Towns.withNodes(2);
         x.addRoad(0, 1, 1, 0);
         x.snow(20);
         x.addRoad(0, 1, 1, 2);
@@ -192,7 +184,7 @@ public final class TownTest {
     }
 
     private static void promise9Reach() {
-        PloughPlanner x = withNodes(4);
+        PloughPlanner x = Towns.withNodes(4);
         CHECK.due("without roads", x.reach(3), 8);
         x.addRoad(3, 2, 1, 0);
         x.addRoad(2, 1, 1, 0);
@@ -213,7 +205,7 @@ public final class TownTest {
     }
 
     private static void reachAlongAllNodes() {
-        PloughPlanner x = withNodes(8);
+        PloughPlanner x = Towns.withNodes(8);
         for (int node = 0; node < 7; node++) {
             x.addRoad(node, node + 1, 1, 0);
         }
@@ -222,7 +214,7 @@ public final class TownTest {
     }
 
     private static void promise10Bare() {
-        PloughPlanner x = withNodes(2);
+        PloughPlanner x = Towns.withNodes(2);
         CHECK.dueDouble("without roads", x.bare(), 1);
         x.addRoad(0, 1, 1, 0);
         CHECK.dueDouble("without snow", x.bare(), 1);

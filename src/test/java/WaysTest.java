@@ -20,16 +20,8 @@ public final class WaysTest {
         CHECK.end();
     }
 
-    private static PloughPlanner withNodes(int count) {
-        PloughPlanner x = new PloughPlanner();
-        for (int node = 1; node < count; node++) {
-            x.addNode(false, false);
-        }
-        return x;
-    }
-
     private static void promise15Way() {
-        PloughPlanner x = withNodes(4);
+        PloughPlanner x = Towns.withNodes(4);
         x.addRoad(0, 1, 10, 0);
         x.addRoad(0, 2, 3, 0);
         x.addRoad(2, 1, 4, 0);
@@ -46,7 +38,7 @@ public final class WaysTest {
     }
 
     private static void promise15WayWithTurns() {
-        PloughPlanner x = withNodes(3);
+        PloughPlanner x = Towns.withNodes(3);
         x.addRoad(0, 1, 10, 0);
         x.addRoad(1, 2, 5, 0);
         x.go(0);
@@ -67,7 +59,7 @@ public final class WaysTest {
     }
 
     private static void promise16First() {
-        PloughPlanner x = withNodes(4);
+        PloughPlanner x = Towns.withNodes(4);
         x.addRoad(0, 1, 2, 0);
         x.addRoad(1, 2, 2, 0);
         x.addRoad(0, 2, 4, 0);
@@ -81,13 +73,13 @@ public final class WaysTest {
     }
 
     private static void promise16FirstAmongEqualWays() {
-        PloughPlanner x = withNodes(4);
+        PloughPlanner x = Towns.withNodes(4);
         x.addRoad(2, 3, 1, 0);
         x.addRoad(1, 3, 1, 0);
         x.addRoad(0, 1, 1, 0);
         x.addRoad(0, 2, 1, 0);
         CHECK.due("the smallest first road, not the smallest last one", x.first(3), 2);
-        PloughPlanner y = withNodes(3);
+        PloughPlanner y = Towns.withNodes(3);
         y.addRoad(0, 1, 5, 0);
         y.addRoad(0, 1, 5, 0);
         y.addRoad(1, 2, 5, 0);
@@ -96,7 +88,7 @@ public final class WaysTest {
     }
 
     private static void promise17And18Sides() {
-        PloughPlanner x = withNodes(3);
+        PloughPlanner x = Towns.withNodes(3);
         x.addRoad(0, 1, 5, 0);
         x.addRoad(1, 2, 6, 0);
         CHECK.due("wayToSide(0, 0)", x.wayToSide(0, 0), 5);
@@ -127,7 +119,7 @@ public final class WaysTest {
     }
 
     private static void promise19Next() {
-        PloughPlanner x = withNodes(4);
+        PloughPlanner x = Towns.withNodes(4);
         CHECK.due("without roads", x.next(), -1);
         x.addRoad(2, 3, 1, 0);
         x.addRoad(0, 1, 1, 2);
@@ -142,14 +134,14 @@ public final class WaysTest {
     }
 
     private static void promise19NextByWayAndNumber() {
-        PloughPlanner x = withNodes(3);
+        PloughPlanner x = Towns.withNodes(3);
         x.addRoad(1, 2, 1, 1);
         x.addRoad(0, 1, 9, 1);
         x.addRoad(0, 1, 8, 1);
         x.addRoad(1, 0, 8, 1);
         x.snow(50);
         CHECK.due("least minutes, then least number", x.next(), 4);
-        PloughPlanner y = withNodes(2);
+        PloughPlanner y = Towns.withNodes(2);
         y.addRoad(1, 0, 8, 1);
         y.addRoad(0, 1, 8, 1);
         y.snow(50);
@@ -157,7 +149,7 @@ public final class WaysTest {
     }
 
     private static void promise20ClearToTheLimit() {
-        PloughPlanner x = withNodes(2);
+        PloughPlanner x = Towns.withNodes(2);
         x.setNode(1, false, true);
         x.addRoad(0, 1, 5, 0);
         CHECK.due("nothing to clear", x.clear(300), 0);
@@ -177,7 +169,7 @@ public final class WaysTest {
     }
 
     private static void promise20ClearGoesTheShortestWay() {
-        PloughPlanner x = withNodes(5);
+        PloughPlanner x = Towns.withNodes(5);
         x.addRoad(3, 4, 1, 0);
         x.addRoad(2, 3, 1, 2);
         x.addRoad(1, 3, 1, 2);
@@ -196,7 +188,7 @@ public final class WaysTest {
     }
 
     private static void promise20ClearFillsUp() {
-        PloughPlanner x = withNodes(3);
+        PloughPlanner x = Towns.withNodes(3);
         x.setNode(1, false, true);
         x.addRoad(0, 1, 30, 0);
         x.addRoad(1, 2, 2, 2);
@@ -224,7 +216,7 @@ public final class WaysTest {
     }
 
     private static void promise20ClearWithoutAStore() {
-        PloughPlanner x = withNodes(4);
+        PloughPlanner x = Towns.withNodes(4);
         x.setNode(0, true, false);
         x.setNode(3, true, true);
         x.setNode(1, false, true);
@@ -244,7 +236,7 @@ public final class WaysTest {
     }
 
     private static void promise20ClearLooksAnewAfterFilling() {
-        PloughPlanner x = withNodes(4);
+        PloughPlanner x = Towns.withNodes(4);
         x.setNode(0, true, false);
         x.setNode(1, false, true);
         x.setNode(2, true, true);
@@ -268,7 +260,7 @@ public final class WaysTest {
     }
 
     private static void fillingThatClearsTheLastSide() {
-        PloughPlanner x = withNodes(2);
+        PloughPlanner x = Towns.withNodes(2);
         x.setNode(1, false, true);
         x.addRoad(0, 1, 30, 0);
         x.snow(300);
