@@ -478,6 +478,21 @@ public final class EdgesOfWaysTest {
         z.addRoad(1, 0, 5, 0);
         z.snow(60);
         CHECK.due("the greatest number there is", z.next(), 23);
+        nextSmallestNumberThoughNotDeepest();
+    }
+
+    private static void nextSmallestNumberThoughNotDeepest() {
+        PloughPlanner x = Towns.withNodes(2);
+        for (int road = 0; road < 3; road++) {
+            x.addRoad(0, 1, 5, 1);
+        }
+        x.snow(300);
+        x.go(0);
+        x.go(2);
+        x.snow(100);
+        CHECK.due("salted side 0 of road 0", x.depth(0, 0), 50);
+        CHECK.due("side 0 of road 1", x.depth(1, 0), 400);
+        CHECK.due("both 5 minutes away: the snow does not decide", x.next(), 0);
     }
 
     // ---- promise 20

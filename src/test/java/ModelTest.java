@@ -40,7 +40,8 @@ public final class ModelTest {
                 anyCall(seed, random, x, m);
             }
             if (x.digest() != m.digest()) {
-                same(seed, "digest after call " + i, x::digest, m::digest);
+                // Not by same(): as doubles, two long numbers can be alike that are not the same.
+                CHECK.due("seed " + seed + ": digest() after call " + i, x.digest(), m.digest());
                 return;
             }
         }
